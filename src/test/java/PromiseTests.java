@@ -127,6 +127,16 @@ public final class PromiseTests {
             due("rank", x.hole(0, 0, 4, wild), BEYOND);
         }
         due("nothing changed", x.about(0, 200), 5);
+        card(x, 0, 1, 5, 15);
+        due("18 holes of 4 + 2 + 3", x.mark(0), 900);
+        x.hole(1, 0, 5, 1);
+        // G is 53 then: 3 at each hole but that of rank 18
+        due("marks by the new par: 10 + 16 * 9 + 8", x.mark(0), 900);
+        due("adjusted", x.adjusted(0, 0), 10);
+        due("adjusted", x.adjusted(0, 17), 8);
+        x.hole(1, 17, 4, 1);
+        due("adjusted by the new rank", x.adjusted(0, 17), 9);
+        due("and by the other's", x.adjusted(0, 0), 9);
     }
 
     private static void right() {
@@ -212,6 +222,7 @@ public final class PromiseTests {
         due("the eighth", x.pickUp(7), 1);
         due("the ninth", x.pickUp(8), BEYOND);
         due("one not played", x.pickUp(6), 1);
+        due("the first", x.pickUp(0), 1);
         for (int wild : WILD) {
             due("wild", x.pickUp(wild), BEYOND);
         }
@@ -219,6 +230,7 @@ public final class PromiseTests {
         due("nine", x.nine(0, 0, 0, true), 0);
         due("pick-up", x.at(0, 7), -1);
         due("pick-up", x.at(0, 6), -1);
+        due("pick-up", x.at(0, 0), -1);
         due("strokes", x.at(0, 5), 4);
         due("those that waited are gone", x.pickUp(0), BEYOND);
     }
@@ -244,6 +256,10 @@ public final class PromiseTests {
         due("next", card(x, 0, 0, 0, 5), 1);
         aways(x, 0, 0, times(58, 0));
         due("60 cards", x.count(0), 60);
+        due("60 with a mark", x.count(2), 60);
+        due("place", x.place(1), 1);
+        due("card 59", x.ask(59, 0), 2);
+        due("card 60", x.ask(60, 0), BEYOND);
         due("SIZE ahead of FULL", x.card(0, 0, 0), SIZE);
         same(x, 18, 4);
         due("full", x.card(0, 0, 0), FULL);
@@ -593,7 +609,7 @@ public final class PromiseTests {
             due("day", x.number(0, wild), BEYOND);
         }
         // LOW 100, then 20 cards of 100 + more: RAW is that
-        int[][] rawAndNumber = {{130, 130}, {131, 130}, {132, 131}, {133, 131}, {169, 149}, {170, 150}, {171, 150}, {540, 150}};
+        int[][] rawAndNumber = {{101, 101}, {128, 128}, {130, 130}, {131, 130}, {132, 131}, {133, 131}, {169, 149}, {170, 150}, {171, 150}, {540, 150}};
         for (int[] pair : rawAndNumber) {
             ClubStrokes y = new ClubStrokes();
             aways(y, 3, 50, times(20, 100));
