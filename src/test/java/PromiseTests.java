@@ -1,56 +1,15 @@
 /** Each promise of the document in turn: ordinary calls, the edges that it names, wrong inputs. */
 public final class PromiseTests {
-    private static final int BEYOND = -100001, NONE = -100002, KIND = -100003;
-    private static final int SIZE = -100004, FULL = -100005, VOID = -100006;
+    private static final int BEYOND = Book.BEYOND, NONE = Book.NONE, KIND = Book.KIND;
+    private static final int SIZE = Book.SIZE, FULL = Book.FULL, VOID = Book.VOID;
     private static final int[] WILD = {Integer.MIN_VALUE, -1, Integer.MAX_VALUE};
 
-    private static int promise;
-    private static int asked;
-    private static int wrong;
-
     private static void due(String call, int got, int want) {
-        asked++;
-        if (got != want) {
-            wrong++;
-            System.out.println("promise " + promise + ": " + call + " answered " + got + ", due is " + want);
-        }
-    }
-
-    /** Puts down holes that all have the same strokes (-1: PICK-UPS). */
-    private static void same(ClubStrokes x, int n, int shots) {
-        for (int i = 0; i < n; i++) {
-            x.holes(Math.max(shots, 0), 1);
-            if (shots < 0) {
-                x.pickUp(x.count(4) - 1);
-            }
-        }
-    }
-
-    private static int card(ClubStrokes x, int player, int course, int day, int shots) {
-        same(x, 18, shots);
-        return x.card(player, course, day);
-    }
-
-    private static int nine(ClubStrokes x, int player, int day, int shots) {
-        same(x, 9, shots);
-        return x.nine(player, 0, day, true);
-    }
-
-    /** AWAYS of one player, one a day from a day on. */
-    private static void aways(ClubStrokes x, int player, int day, int... marks) {
-        for (int i = 0; i < marks.length; i++) {
-            x.away(player, day + i, marks[i]);
-        }
-    }
-
-    private static int[] times(int n, int value) {
-        int[] row = new int[n];
-        java.util.Arrays.fill(row, value);
-        return row;
+        Tally.due(call, got, want);
     }
 
     private static void newObject() {
-        ClubStrokes x = new ClubStrokes();
+        Book x = new Book();
         for (int c = 0; c < 4; c++) {
             due("about 0", x.about(c, 0), 720);
             due("about 1", x.about(c, 1), 113);
@@ -70,13 +29,13 @@ public final class PromiseTests {
         }
         due("number", x.number(11, 9999), 540);
         due("card 0", x.mark(0), BEYOND);
-        ClubStrokes y = new ClubStrokes();
+        Book y = new Book();
         y.course(0, 500, 55);
-        due("another object's course", new ClubStrokes().about(0, 0), 720);
+        due("another object's course", new Book().about(0, 0), 720);
     }
 
     private static void course() {
-        ClubStrokes x = new ClubStrokes();
+        Book x = new Book();
         due("least", x.course(0, 500, 55), 1);
         due("rating", x.about(0, 0), 500);
         due("slope", x.about(0, 1), 55);
@@ -95,14 +54,14 @@ public final class PromiseTests {
             due("slope", x.course(0, 700, wild), BEYOND);
         }
         due("nothing changed", x.about(0, 0) + x.about(0, 1), 555);
-        card(x, 0, 1, 5, 5);
+        x.putCard(0, 1, 5, 5);
         due("mark", x.mark(0), 180);
         x.course(1, 700, 100);
         due("mark by the new course: 113 * 200 / 100", x.mark(0), 226);
     }
 
     private static void hole() {
-        ClubStrokes x = new ClubStrokes();
+        Book x = new Book();
         due("hole", x.hole(0, 4, 3, 18), 5);
         due("par", x.about(0, 104), 3);
         due("rank", x.about(0, 204), 18);
@@ -127,7 +86,7 @@ public final class PromiseTests {
             due("rank", x.hole(0, 0, 4, wild), BEYOND);
         }
         due("nothing changed", x.about(0, 200), 5);
-        card(x, 0, 1, 5, 15);
+        x.putCard(0, 1, 5, 15);
         due("18 holes of 4 + 2 + 3", x.mark(0), 900);
         x.hole(1, 0, 5, 1);
         // G is 53 then: 3 at each hole but that of rank 18
@@ -140,7 +99,7 @@ public final class PromiseTests {
     }
 
     private static void right() {
-        ClubStrokes x = new ClubStrokes();
+        Book x = new Book();
         due("new", x.right(0, 0, 3), 0);
         due("again", x.right(0, 0, -1), 3);
         due("back to 0", x.right(0, 0, 0), -1);
@@ -169,7 +128,7 @@ public final class PromiseTests {
     }
 
     private static void about() {
-        ClubStrokes x = new ClubStrokes();
+        Book x = new Book();
         x.course(2, 685, 131);
         x.hole(2, 0, 5, 1);
         x.hole(2, 8, 3, 18);
@@ -193,7 +152,7 @@ public final class PromiseTests {
     }
 
     private static void holes() {
-        ClubStrokes x = new ClubStrokes();
+        Book x = new Book();
         due("none", x.holes(-1L, 0), 0);
         due("eight", x.holes(0x87654321L, 8), 8);
         due("eight of a long word", x.holes(0xFFFFFFFF0FEDCBA9L, 8), 16);
@@ -216,7 +175,7 @@ public final class PromiseTests {
     }
 
     private static void pickUp() {
-        ClubStrokes x = new ClubStrokes();
+        Book x = new Book();
         due("none wait", x.pickUp(0), BEYOND);
         x.holes(0x40444444L, 8);
         due("the eighth", x.pickUp(7), 1);
@@ -236,12 +195,12 @@ public final class PromiseTests {
     }
 
     private static void card() {
-        ClubStrokes x = new ClubStrokes();
+        Book x = new Book();
         due("none wait", x.card(0, 0, 0), SIZE);
-        same(x, 17, 4);
+        x.same(17, 4);
         due("17 wait", x.card(0, 0, 0), SIZE);
         due("BEYOND ahead of SIZE", x.card(12, 0, 0), BEYOND);
-        same(x, 1, 4);
+        x.same(1, 4);
         due("player 12", x.card(12, 0, 0), BEYOND);
         due("course 4", x.card(0, 4, 0), BEYOND);
         due("day 10000", x.card(0, 0, 10000), BEYOND);
@@ -253,15 +212,15 @@ public final class PromiseTests {
         due("they still wait", x.count(4), 18);
         due("card", x.card(11, 3, 9999), 0);
         due("none wait then", x.count(4), 0);
-        due("next", card(x, 0, 0, 0, 5), 1);
-        aways(x, 0, 0, times(58, 0));
+        due("next", x.putCard(0, 0, 0, 5), 1);
+        x.aways(0, 0, Book.times(58, 0));
         due("60 cards", x.count(0), 60);
         due("60 with a mark", x.count(2), 60);
         due("place", x.place(1), 1);
         due("card 59", x.ask(59, 0), 2);
         due("card 60", x.ask(60, 0), BEYOND);
         due("SIZE ahead of FULL", x.card(0, 0, 0), SIZE);
-        same(x, 18, 4);
+        x.same(18, 4);
         due("full", x.card(0, 0, 0), FULL);
         due("they still wait", x.count(4), 18);
         x.undo();
@@ -269,14 +228,14 @@ public final class PromiseTests {
     }
 
     private static void nine() {
-        ClubStrokes x = new ClubStrokes();
+        Book x = new Book();
         due("none wait", x.nine(0, 0, 0, true), SIZE);
-        same(x, 10, 4);
+        x.same(10, 4);
         due("10 wait", x.nine(0, 0, 0, true), SIZE);
-        same(x, 8, 4);
+        x.same(8, 4);
         due("18 wait", x.nine(0, 0, 0, true), SIZE);
         due("card", x.card(0, 0, 0), 0);
-        same(x, 9, 6);
+        x.same(9, 6);
         due("SIZE of a card", x.card(0, 0, 0), SIZE);
         due("player 12", x.nine(12, 0, 0, true), BEYOND);
         due("course 4", x.nine(0, 4, 0, true), BEYOND);
@@ -291,19 +250,19 @@ public final class PromiseTests {
         due("kind", x.ask(1, 0), 1);
         due("the last nine", x.at(1, 17), 6);
         due("not the first", x.at(1, 8), BEYOND);
-        due("front", nine(x, 0, 0, 5), 2);
+        due("front", x.putNine(0, 0, 5), 2);
         due("the first nine", x.at(2, 0), 5);
         due("not the last", x.at(2, 9), BEYOND);
-        aways(x, 0, 0, times(57, 0));
+        x.aways(0, 0, Book.times(57, 0));
         due("SIZE ahead of FULL", x.nine(0, 0, 0, true), SIZE);
-        same(x, 9, 6);
+        x.same(9, 6);
         due("full", x.nine(0, 0, 0, true), FULL);
         due("they still wait", x.count(4), 9);
     }
 
     private static void away() {
-        ClubStrokes x = new ClubStrokes();
-        same(x, 5, 4);
+        Book x = new Book();
+        x.same(5, 4);
         due("least", x.away(0, 0, -200), 0);
         due("most", x.away(11, 9999, 900), 1);
         due("what waits stays", x.count(4), 5);
@@ -317,16 +276,16 @@ public final class PromiseTests {
         due("day", x.away(0, -1, 0), BEYOND);
         due("mark", x.away(0, 0, Integer.MAX_VALUE), BEYOND);
         due("mark", x.away(0, 0, Integer.MIN_VALUE), BEYOND);
-        aways(x, 5, 0, times(58, 100));
+        x.aways(5, 0, Book.times(58, 100));
         due("full", x.away(0, 0, 0), FULL);
         due("BEYOND ahead of FULL", x.away(0, 0, 901), BEYOND);
         due("60", x.count(0), 60);
     }
 
     private static void strike() {
-        ClubStrokes x = new ClubStrokes();
+        Book x = new Book();
         due("none", x.strike(0, true), BEYOND);
-        aways(x, 0, 1, 100, 110, 120);
+        x.aways(0, 1, 100, 110, 120);
         due("number", x.number(0, 9), 80);
         due("not void", x.strike(0, false), 0);
         due("void", x.strike(0, true), 1);
@@ -347,13 +306,13 @@ public final class PromiseTests {
     }
 
     private static void ask() {
-        ClubStrokes x = new ClubStrokes();
+        Book x = new Book();
         x.away(7, 30, 5);
-        same(x, 7, 4);
-        same(x, 1, 0);
-        same(x, 1, -1);
+        x.same(7, 4);
+        x.same(1, 0);
+        x.same(1, -1);
         x.nine(6, 2, 40, true);
-        card(x, 5, 3, 50, 15);
+        x.putCard(5, 3, 50, 15);
         x.strike(1, true);
         int[][] want = {{2, 7, 30, 0, NONE, NONE}, {1, 6, 40, 1, 2, 8}, {0, 5, 50, 0, 3, 18}};
         for (int c = 0; c < 3; c++) {
@@ -371,9 +330,9 @@ public final class PromiseTests {
     }
 
     private static void as() {
-        ClubStrokes x = new ClubStrokes();
-        card(x, 4, 0, 0, 4);
-        nine(x, 5, 0, 4);
+        Book x = new Book();
+        x.putCard(4, 0, 0, 4);
+        x.putNine(5, 0, 4);
         x.away(6, 0, 0);
         int[][] want = {{4, KIND, KIND}, {5, 5, KIND}, {6, KIND, 6}};
         for (int c = 0; c < 3; c++) {
@@ -392,12 +351,12 @@ public final class PromiseTests {
     }
 
     private static void at() {
-        ClubStrokes x = new ClubStrokes();
-        same(x, 16, 4);
-        same(x, 1, -1);
-        same(x, 1, 0);
+        Book x = new Book();
+        x.same(16, 4);
+        x.same(1, -1);
+        x.same(1, 0);
         x.card(0, 0, 0);
-        nine(x, 0, 0, 15);
+        x.putNine(0, 0, 15);
         x.away(0, 0, 0);
         due("strokes", x.at(0, 0), 4);
         due("pick-up", x.at(0, 16), -1);
@@ -418,12 +377,12 @@ public final class PromiseTests {
     }
 
     private static void adjusted() {
-        ClubStrokes x = new ClubStrokes();
+        Book x = new Book();
         x.hole(0, 0, 3, 1);
         x.hole(0, 1, 5, 2);
         // G: (540 * 113 + 113 * 0) by 1130 is 54: 3 at each hole
         x.holes(0x0FF9A888L, 8);
-        same(x, 10, 4);
+        x.same(10, 4);
         x.pickUp(7);
         x.card(0, 0, 10);
         due("at its limit 3 + 2 + 3", x.adjusted(0, 0), 8);
@@ -435,8 +394,8 @@ public final class PromiseTests {
         due("above", x.adjusted(0, 6), 9);
         due("pick-up", x.adjusted(0, 7), 9);
         due("ordinary", x.adjusted(0, 17), 4);
-        same(x, 8, 4);
-        same(x, 1, 0);
+        x.same(8, 4);
+        x.same(1, 0);
         x.nine(0, 0, 10, false);
         due("not played: 4 + 3", x.adjusted(1, 17), 7);
         due("not its hole", x.adjusted(1, 8), BEYOND);
@@ -452,17 +411,17 @@ public final class PromiseTests {
             due("hole", x.adjusted(1, wild), BEYOND);
         }
         // RAW -100 - 20, G -12: floor -1, left 6
-        aways(x, 1, 0, -100, -100, -100);
-        card(x, 1, 1, 9, 9);
+        x.aways(1, 0, -100, -100, -100);
+        x.putCard(1, 1, 9, 9);
         due("rank 6: 4 + 2", x.adjusted(6, 5), 6);
         due("rank 7: 4 + 2 - 1", x.adjusted(6, 6), 5);
         due("the same day's cards don't count", x.number(0, 10), 540);
     }
 
     private static void mark() {
-        ClubStrokes x = new ClubStrokes();
+        Book x = new Book();
         x.course(1, 703, 127);
-        card(x, 0, 1, 0, 5);
+        x.putCard(0, 1, 0, 5);
         due("113 * (900 - 703) / 127 = 175.28", x.mark(0), 175);
         x.right(1, 0, 3);
         due("113 * (900 - 703 - 30) / 127 = 148.59", x.mark(0), 149);
@@ -471,17 +430,17 @@ public final class PromiseTests {
         x.right(1, 1, 2);
         x.right(0, 0, 2);
         due("rights of other days and courses", x.mark(0), 184);
-        same(x, 13, 4);
-        same(x, 5, 0);
+        x.same(13, 4);
+        x.same(5, 0);
         x.card(0, 0, 0);
         due("13 played", x.mark(1), NONE);
-        same(x, 13, 4);
-        same(x, 4, 0);
-        same(x, 1, -1);
+        x.same(13, 4);
+        x.same(4, 0);
+        x.same(1, -1);
         x.card(1, 0, 5);
         due("14 with a pick-up: 52 + 28 + 9 = 89", x.mark(2), 170);
         x.course(2, 720, 113);
-        card(x, 2, 2, 0, 1);
+        x.putCard(2, 2, 0, 1);
         due("below 0", x.mark(3), -540);
         x.course(2, 725, 114);
         due("113 * -545 / 114 = -540.2", x.mark(3), -540);
@@ -495,7 +454,7 @@ public final class PromiseTests {
         due("113 * -324 / 72 = -508.5: up", x.mark(3), -508);
         x.strike(1, true);
         due("VOID ahead of NONE", x.mark(1), VOID);
-        nine(x, 3, 0, 4);
+        x.putNine(3, 0, 4);
         due("a nine alone", x.mark(4), NONE);
         due("card 5", x.mark(5), BEYOND);
         for (int wild : WILD) {
@@ -504,28 +463,28 @@ public final class PromiseTests {
     }
 
     private static void half() {
-        ClubStrokes x = new ClubStrokes();
+        Book x = new Book();
         x.course(0, 721, 113);
         due("none", x.half(0), BEYOND);
-        nine(x, 0, 5, 5);
+        x.putNine(0, 5, 5);
         due("450 - 360", x.half(0), 90);
         x.right(0, 5, 3);
         due("450 - 360 - 15", x.half(0), 75);
         x.right(0, 5, -1);
         due("450 - 360 + 5", x.half(0), 95);
-        same(x, 6, 4);
-        same(x, 3, 0);
+        x.same(6, 4);
+        x.same(3, 0);
         x.nine(1, 0, 6, true);
         due("6 played", x.half(1), NONE);
-        same(x, 6, 4);
-        same(x, 1, -1);
-        same(x, 2, 0);
+        x.same(6, 4);
+        x.same(1, -1);
+        x.same(2, 0);
         x.nine(1, 0, 7, true);
         due("7 played: 24 + 9 + 14 = 47", x.half(2), 110);
         x.course(0, 700, 155);
         // G is 72 now: 4 at each hole, so 24 + 10 + 16 = 50
         due("113 * 150 / 155 = 109.35", x.half(2), 109);
-        card(x, 0, 0, 0, 4);
+        x.putCard(0, 0, 0, 4);
         x.away(0, 0, 4);
         due("card", x.half(3), KIND);
         due("away", x.half(4), KIND);
@@ -539,21 +498,21 @@ public final class PromiseTests {
     }
 
     private static void joined() {
-        ClubStrokes x = new ClubStrokes();
-        nine(x, 0, 100, 4);
+        Book x = new Book();
+        x.putNine(0, 100, 4);
         due("it waits", x.joined(0), NONE);
-        nine(x, 1, 101, 5);
+        x.putNine(1, 101, 5);
         due("another player's", x.joined(1), NONE);
-        nine(x, 0, 161, 5);
+        x.putNine(0, 161, 5);
         due("61 days", x.joined(2), NONE);
         due("three wait", x.count(3), 3);
-        nine(x, 0, 160, 6);
+        x.putNine(0, 160, 6);
         due("60 days, come late", x.joined(3), 0);
         due("the earlier one", x.joined(0), 3);
         due("the later one's mark: 0 + 180", x.mark(3), 180);
         due("the earlier one has none", x.mark(0), NONE);
         due("two wait", x.count(3), 2);
-        nine(x, 0, 161, 7);
+        x.putNine(0, 161, 7);
         due("the same day", x.joined(4), 2);
         due("90 + 270", x.mark(4), 360);
         x.strike(0, true);
@@ -565,7 +524,7 @@ public final class PromiseTests {
         x.strike(0, false);
         due("back", x.joined(3), 0);
         x.away(0, 0, 0);
-        card(x, 0, 0, 0, 4);
+        x.putCard(0, 0, 0, 4);
         due("away", x.joined(5), KIND);
         due("card", x.joined(6), KIND);
         due("card 7", x.joined(7), BEYOND);
@@ -576,31 +535,31 @@ public final class PromiseTests {
     }
 
     private static void waitedLongest() {
-        ClubStrokes x = new ClubStrokes();
-        nine(x, 0, 10, 4);
-        nine(x, 0, 71, 4);
-        nine(x, 0, 140, 4);
-        nine(x, 0, 131, 4);
+        Book x = new Book();
+        x.putNine(0, 10, 4);
+        x.putNine(0, 71, 4);
+        x.putNine(0, 140, 4);
+        x.putNine(0, 131, 4);
         due("of 10 and 71 only 71 is near", x.joined(3), 1);
         due("140 waits", x.joined(2), NONE);
-        nine(x, 0, 65, 4);
+        x.putNine(0, 65, 4);
         due("65 takes 10", x.joined(4), 0);
         x.strike(3, true);
         x.strike(4, true);
         due("140 is too far from 71", x.joined(2), NONE);
-        nine(x, 0, 70, 4);
+        x.putNine(0, 70, 4);
         due("70 takes 10, the longest", x.joined(5), 0);
         due("71 waits", x.joined(1), NONE);
         due("two wait", x.count(3), 2);
     }
 
     private static void number() {
-        ClubStrokes x = new ClubStrokes();
-        aways(x, 0, 10, 200, 100, 300);
+        Book x = new Book();
+        x.aways(0, 10, 200, 100, 300);
         due("two", x.number(0, 12), 540);
         due("three", x.number(0, 13), 80);
         due("another player", x.number(1, 13), 540);
-        aways(x, 2, 0, 900, 900, 900);
+        x.aways(2, 0, 900, 900, 900);
         due("at most 540", x.number(2, 5), 540);
         due("player 12", x.number(12, 0), BEYOND);
         due("day 10000", x.number(0, 10000), BEYOND);
@@ -611,16 +570,16 @@ public final class PromiseTests {
         // LOW 100, then 20 cards of 100 + more: RAW is that
         int[][] rawAndNumber = {{101, 101}, {128, 128}, {130, 130}, {131, 130}, {132, 131}, {133, 131}, {169, 149}, {170, 150}, {171, 150}, {540, 150}};
         for (int[] pair : rawAndNumber) {
-            ClubStrokes y = new ClubStrokes();
-            aways(y, 3, 50, times(20, 100));
-            aways(y, 3, 100, times(20, pair[0]));
+            Book y = new Book();
+            y.aways(3, 50, Book.times(20, 100));
+            y.aways(3, 100, Book.times(20, pair[0]));
             due("raw", y.raw(3, 120, false), pair[0]);
             due("low", y.raw(3, 120, true), 100);
             due("capped from " + pair[0], y.number(3, 120), pair[1]);
         }
-        ClubStrokes y = new ClubStrokes();
-        aways(y, 3, 50, times(20, 100));
-        aways(y, 3, 100, times(20, 300));
+        Book y = new Book();
+        y.aways(3, 50, Book.times(20, 100));
+        y.aways(3, 100, Book.times(20, 300));
         // day 70 has RAW 100 first; so have the days to 113 at 8 of 20, later ones mix
         due("the last day of 100", y.raw(3, 112, false), 100);
         due("day 112 is 364 ahead", y.raw(3, 112 + 364, true), 100);
@@ -635,12 +594,12 @@ public final class PromiseTests {
         int[] k = {0, 0, 0, 1, 1, 1, 2, 2, 2, 3, 3, 3, 4, 4, 4, 5, 5, 6, 6, 7, 8, 8, 8};
         int[] t = {0, 0, 0, 20, 10, 0, 10};
         for (int m = 0; m <= 22; m++) {
-            ClubStrokes x = new ClubStrokes();
+            Book x = new Book();
             int[] marks = new int[m];
             for (int i = 0; i < m; i++) {
                 marks[i] = (i + 1) * (i + 1);
             }
-            aways(x, 0, 0, marks);
+            x.aways(0, 0, marks);
             int first = Math.max(0, m - 20);
             int sum = 0;
             for (int i = 0; i < k[m]; i++) {
@@ -650,13 +609,13 @@ public final class PromiseTests {
             due("raw of " + m, x.raw(0, m, false), want);
             due("low of " + m, x.raw(0, m, true) != NONE ? 1 : 0, m >= 20 ? 1 : 0);
         }
-        ClubStrokes x = new ClubStrokes();
-        aways(x, 0, 0, -5, -4, 9, 9, 9, 9, 9);
+        Book x = new Book();
+        x.aways(0, 0, -5, -4, 9, 9, 9, 9, 9);
         due("-9 by 2, ROUNDED: -4", x.raw(0, 7, false), -4);
         due("none yet", x.raw(0, 2, false), NONE);
-        aways(x, 1, 0, 700, 560, 800);
+        x.aways(1, 0, 700, 560, 800);
         due("less 20, then at most 540", x.raw(1, 3, false), 540);
-        aways(x, 2, 0, 700, 559, 800);
+        x.aways(2, 0, 700, 559, 800);
         due("559 less 20", x.raw(2, 3, false), 539);
         for (boolean low : new boolean[] {false, true}) {
             due("player 12", x.raw(12, 0, low), BEYOND);
@@ -671,8 +630,8 @@ public final class PromiseTests {
 
     /** LOW is told by whole days: 20 cards of which the last two share a day. */
     private static void lowByDays() {
-        ClubStrokes x = new ClubStrokes();
-        aways(x, 0, 0, times(19, 300));
+        Book x = new Book();
+        x.aways(0, 0, Book.times(19, 300));
         x.away(0, 50, 300);
         x.away(0, 50, 100);
         due("8 of 20: 100 and 7 of 300", x.raw(0, 51, false), 275);
@@ -682,9 +641,9 @@ public final class PromiseTests {
     }
 
     private static void last() {
-        ClubStrokes x = new ClubStrokes();
+        Book x = new Book();
         due("none", x.last(0, 9999), 0);
-        aways(x, 0, 0, times(25, 100));
+        x.aways(0, 0, Book.times(25, 100));
         due("day 0", x.last(0, 0), 0);
         due("day 1", x.last(0, 1), 1);
         due("day 19", x.last(0, 19), 19);
@@ -692,9 +651,9 @@ public final class PromiseTests {
         due("day 21", x.last(0, 21), 20);
         x.strike(0, true);
         due("without a void one", x.last(0, 20), 19);
-        nine(x, 1, 0, 4);
+        x.putNine(1, 0, 4);
         due("no mark", x.last(1, 5), 0);
-        nine(x, 1, 3, 4);
+        x.putNine(1, 3, 4);
         due("joined", x.last(1, 5), 1);
         due("of earlier days", x.last(1, 3), 0);
         due("player 12", x.last(12, 0), BEYOND);
@@ -706,7 +665,7 @@ public final class PromiseTests {
     }
 
     private static void makes() {
-        ClubStrokes x = new ClubStrokes();
+        Book x = new Book();
         int[] marks = {50, 40, 40, 60, 30, 40, 70, 80, 40};
         for (int i = 0; i < marks.length; i++) {
             x.away(0, 100 - i, marks[i]);
@@ -732,17 +691,17 @@ public final class PromiseTests {
     }
 
     private static void given() {
-        ClubStrokes x = new ClubStrokes();
+        Book x = new Book();
         due("540", x.given(0, 0, 0), 54);
         x.course(1, 755, 155);
         due("(540 * 155 + 113 * 35) by 1130 = 77.57", x.given(0, 1, 0), 78);
         x.hole(1, 0, 5, 1);
         due("(83700 - 113 * -25) by 1130 = 76.57", x.given(0, 1, 0), 77);
-        aways(x, 0, 0, 70, 70, 70);
+        x.aways(0, 0, 70, 70, 70);
         due("N 50: 5", x.given(0, 0, 3), 5);
-        aways(x, 1, 0, 65, 65, 65);
+        x.aways(1, 0, 65, 65, 65);
         due("N 45: 4.5, so 5", x.given(1, 0, 3), 5);
-        aways(x, 2, 0, -25, -25, -25);
+        x.aways(2, 0, -25, -25, -25);
         due("N -45: -4.5, so -4", x.given(2, 0, 3), -4);
         due("the day of the third card", x.given(2, 0, 2), 54);
         due("player 12", x.given(12, 0, 0), BEYOND);
@@ -756,7 +715,7 @@ public final class PromiseTests {
     }
 
     private static void strokes() {
-        ClubStrokes x = new ClubStrokes();
+        Book x = new Book();
         x.hole(1, 0, 4, 18);
         due("rank 18 of 18", x.strokes(1, 18, 0), 1);
         due("rank 18 of 17", x.strokes(1, 17, 0), 0);
@@ -781,12 +740,12 @@ public final class PromiseTests {
     }
 
     private static void score() {
-        ClubStrokes x = new ClubStrokes();
-        card(x, 0, 0, 0, 15);
+        Book x = new Book();
+        x.putCard(0, 0, 0, 15);
         due("270", x.score(0, false), 270);
         due("less 54", x.score(0, true), 216);
-        aways(x, 1, 0, 120, 120, 120);
-        same(x, 9, 5);
+        x.aways(1, 0, 120, 120, 120);
+        x.same(9, 5);
         x.nine(1, 0, 5, false);
         due("45", x.score(4, false), 45);
         // G 10: ranks 1 .. 10, so of the last nine just rank 10
@@ -794,12 +753,12 @@ public final class PromiseTests {
         x.strike(4, true);
         due("a void one", x.score(4, true), 44);
         due("away", x.score(1, false), KIND);
-        same(x, 17, 4);
-        same(x, 1, -1);
+        x.same(17, 4);
+        x.same(1, -1);
         x.card(2, 0, 0);
         due("pick-up", x.score(5, false), NONE);
-        same(x, 1, 0);
-        same(x, 17, 4);
+        x.same(1, 0);
+        x.same(17, 4);
         x.card(2, 0, 0);
         due("not played", x.score(6, true), NONE);
         due("card 7", x.score(7, false), BEYOND);
@@ -809,8 +768,8 @@ public final class PromiseTests {
     }
 
     private static void points() {
-        ClubStrokes x = new ClubStrokes();
-        aways(x, 0, 0, 120, 120, 120);
+        Book x = new Book();
+        x.aways(0, 0, 120, 120, 120);
         // G 10 on day 5: holes 0 .. 9 have one more
         x.holes(0x87654321L, 8);
         x.holes(0x07654321L, 8);
@@ -824,7 +783,7 @@ public final class PromiseTests {
         x.hole(0, 17, 5, 18);
         x.course(0, 730, 113);
         due("one more at 17", x.points(3), 41);
-        nine(x, 0, 5, 6);
+        x.putNine(0, 5, 6);
         due("9 holes of 7 less 6", x.points(4), 9);
         due("away", x.points(0), KIND);
         due("card 5", x.points(5), BEYOND);
@@ -834,15 +793,15 @@ public final class PromiseTests {
     }
 
     private static void match() {
-        ClubStrokes x = new ClubStrokes();
-        card(x, 0, 0, 0, 4);
-        card(x, 1, 0, 0, 5);
+        Book x = new Book();
+        x.putCard(0, 0, 0, 4);
+        x.putCard(1, 0, 0, 5);
         due("10 and 8", x.match(0, 1), 1008);
         due("the other", x.match(1, 0), -992);
         due("itself", x.match(0, 0), 0);
-        card(x, 2, 1, 0, 4);
+        x.putCard(2, 1, 0, 4);
         due("unlike courses", x.match(0, 2), KIND);
-        nine(x, 2, 0, 4);
+        x.putNine(2, 0, 4);
         x.away(2, 0, 5);
         due("nine", x.match(0, 3), KIND);
         due("nine", x.match(3, 0), KIND);
@@ -855,44 +814,44 @@ public final class PromiseTests {
             due("first", x.match(wild, 0), BEYOND);
             due("second", x.match(0, wild), BEYOND);
         }
-        same(x, 17, 4);
-        same(x, 1, 3);
+        x.same(17, 4);
+        x.same(1, 3);
         x.card(3, 0, 0);
         due("one up at the last", x.match(5, 0), 100);
         due("one down at the last", x.match(0, 5), -100);
-        same(x, 1, 3);
-        same(x, 16, 4);
-        same(x, 1, 5);
+        x.same(1, 3);
+        x.same(16, 4);
+        x.same(1, 5);
         x.card(4, 0, 0);
         due("one up, then all square", x.match(6, 0), 0);
-        same(x, 2, 3);
-        same(x, 16, 4);
+        x.same(2, 3);
+        x.same(16, 4);
         x.card(5, 0, 0);
         due("two up with one left", x.match(7, 0), 201);
-        same(x, 1, -1);
-        same(x, 1, 0);
-        same(x, 16, 4);
+        x.same(1, -1);
+        x.same(1, 0);
+        x.same(16, 4);
         x.card(6, 0, 0);
         due("pick-up and not played lose", x.match(0, 8), 201);
-        card(x, 7, 0, 0, 15);
+        x.putCard(7, 0, 0, 15);
         due("they lose to 15, too: 2 down, then 10 holes won", x.match(8, 9), 806);
-        same(x, 1, 0);
-        same(x, 1, -1);
-        same(x, 16, 4);
+        x.same(1, 0);
+        x.same(1, -1);
+        x.same(16, 4);
         x.card(8, 0, 0);
         due("two such are halved", x.match(8, 10), 0);
-        aways(x, 9, 0, 20, 20, 20);
-        card(x, 9, 0, 5, 4);
+        x.aways(9, 0, 20, 20, 20);
+        x.putCard(9, 0, 5, 4);
         due("none given against 3 at each hole", x.match(14, 0), -992);
         x.strike(0, true);
         due("a void one", x.match(14, 0), -992);
     }
 
     private static void place() {
-        ClubStrokes x = new ClubStrokes();
+        Book x = new Book();
         // all have 3 given at each hole; like sums, unlike ends
         int[][] over = {{0, 1}, {9, 10}, {12, 13}, {15, 16}, {17, 17}};
-        card(x, 0, 0, 7, 5);
+        x.putCard(0, 0, 7, 5);
         for (int[] pair : over) {
             putWithOneLess(x, pair[0]);
         }
@@ -906,9 +865,9 @@ public final class PromiseTests {
         putWithOneLess(x, 17);
         due("the lesser number first", x.place(6), 2);
         due("the others go down", x.place(4), 3);
-        card(x, 0, 0, 8, 4);
-        card(x, 0, 1, 7, 4);
-        nine(x, 0, 7, 1);
+        x.putCard(0, 0, 8, 4);
+        x.putCard(0, 1, 7, 4);
+        x.putNine(0, 7, 1);
         due("another day, course, kind", x.place(5), 1);
         due("alone", x.place(7), 1);
         due("alone", x.place(8), 1);
@@ -923,15 +882,15 @@ public final class PromiseTests {
         }
     }
 
-    private static void putWithOneLess(ClubStrokes x, int hole) {
+    private static void putWithOneLess(Book x, int hole) {
         for (int h = 0; h < 18; h++) {
-            same(x, 1, h == hole ? 4 : 5);
+            x.same(1, h == hole ? 4 : 5);
         }
         x.card(1, 0, 7);
     }
 
     private static void tell() {
-        ClubStrokes x = new ClubStrokes();
+        Book x = new Book();
         for (int i = 1; i <= 20; i++) {
             due("tell", x.tell(i % 2 == 0 ? Integer.MIN_VALUE : Integer.MAX_VALUE), i);
         }
@@ -942,12 +901,12 @@ public final class PromiseTests {
     }
 
     private static void check() {
-        ClubStrokes x = new ClubStrokes();
+        Book x = new Book();
         due("nothing told", x.check(0, 0), 1);
         x.tell(540);
         due("the number alone", x.check(0, 0), 0);
         due("gone", x.count(5), 0);
-        aways(x, 0, 0, 90, 80, 80, 100, 100, 100);
+        x.aways(0, 0, 90, 80, 80, 100, 100, 100);
         // six make two: cards 1 and 2; 80 less 10
         int[][] told = {{1, 2, 70}, {1, 2, 70, 0}, {1, 2}, {1, 2, 71}, {1, 3, 70}, {2, 1, 70}, {1}, {}, {1, 2, 71, 5}};
         int[] want = {0, 99, 3, 3, 2, 1, 2, 1, 3};
@@ -975,17 +934,17 @@ public final class PromiseTests {
     }
 
     private static void count() {
-        ClubStrokes x = new ClubStrokes();
-        card(x, 0, 0, 0, 4);
-        nine(x, 1, 0, 4);
-        nine(x, 2, 0, 4);
-        nine(x, 1, 1, 4);
+        Book x = new Book();
+        x.putCard(0, 0, 0, 4);
+        x.putNine(1, 0, 4);
+        x.putNine(2, 0, 4);
+        x.putNine(1, 1, 4);
         x.away(3, 0, 0);
-        same(x, 18, 0);
+        x.same(18, 0);
         x.card(4, 0, 0);
         x.strike(0, true);
         x.strike(5, true);
-        same(x, 3, 4);
+        x.same(3, 4);
         x.tell(1);
         x.tell(1);
         int[] want = {6, 2, 2, 1, 3, 2};
@@ -1004,9 +963,9 @@ public final class PromiseTests {
     }
 
     private static void undo() {
-        ClubStrokes x = new ClubStrokes();
+        Book x = new Book();
         due("none", x.undo(), NONE);
-        aways(x, 0, 10, 100, 100);
+        x.aways(0, 10, 100, 100);
         x.away(0, 5, 60);
         due("number", x.number(0, 20), 40);
         due("the latest by number, not by day", x.undo(), 2);
@@ -1014,10 +973,10 @@ public final class PromiseTests {
         due("card 2 is no more", x.mark(2), BEYOND);
         due("its number comes again", x.away(1, 3, 7), 2);
         due("with another mark", x.mark(2), 7);
-        nine(x, 4, 0, 4);
-        nine(x, 4, 1, 4);
+        x.putNine(4, 0, 4);
+        x.putNine(4, 1, 4);
         due("joined", x.joined(3), 4);
-        same(x, 4, 4);
+        x.same(4, 4);
         due("undo", x.undo(), 4);
         due("it waits again", x.joined(3), NONE);
         due("holes stay", x.count(4), 4);
@@ -1029,7 +988,7 @@ public final class PromiseTests {
     }
 
     private static void found() {
-        ClubStrokes x = new ClubStrokes();
+        Book x = new Book();
         x.course(9, 0, 0);
         x.undo();
         x.undo();
@@ -1075,13 +1034,9 @@ public final class PromiseTests {
             PromiseTests::score, PromiseTests::points, PromiseTests::match, PromiseTests::place,
             PromiseTests::tell, PromiseTests::check, PromiseTests::count, PromiseTests::undo,
             PromiseTests::found};
-        for (Runnable test : tests) {
-            promise++;
-            test.run();
+        for (int i = 0; i < tests.length; i++) {
+            Tally.test("promise " + (i + 1), tests[i]);
         }
-        System.out.println(promise + " promises, " + asked + " answers, " + wrong + " not as due");
-        if (wrong != 0) {
-            System.exit(1);
-        }
+        Tally.end();
     }
 }
