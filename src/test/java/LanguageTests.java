@@ -5,7 +5,9 @@ import java.nio.file.Files;
 import java.nio.file.Path;
 import java.util.ArrayList;
 import java.util.List;
+import java.util.Map;
 import java.util.Set;
+import java.util.TreeMap;
 import java.util.TreeSet;
 import java.util.regex.Matcher;
 import java.util.regex.Pattern;
@@ -24,7 +26,17 @@ public final class LanguageTests {
     private static final String[] FORBIDDEN = {
         "\\bthrow\\b", "\\bthrows\\b", "\\btry\\b", "\\bcatch\\b", "\\bsynchronized\\b", "\\bassert\\b",
         "\\bimport\\b", "\\bpackage\\b", "->", "::", "Exact\\b", "\\bRandom\\b", "\\bSystem\\.(?!arraycopy)",
-        "\\bstatic\\s*\\{", "\\bprotected\\b"};
+        "\\bstatic\\s*\\{", "\\bprotected\\b", "\"", "\\[\\]\\[\\]"};
+    private static final Set<String> TYPES = Set.of(
+        "ClubStrokes", "Row", "Course", "Rights", "Card", "Best", "Player", "Math");
+    private static final Set<String> LIBRARY = Set.of(
+        "Math.abs", "Math.min", "Math.max", "Math.floorDiv", "Math.floorMod");
+    /** Constructors, and what a new card needs: no other method makes objects. */
+    private static final Set<String> MAKERS = Set.of(
+        "ClubStrokes", "Row", "Course", "Card", "putDown", "away", "takeAll");
+    private static final int DEEPEST = 8;
+    private static final Pattern METHOD = Pattern.compile(
+        "(?m)^( {4}| {8})(?:(?:public|private|static) )*(?:[\\w\\[\\]]+ )?(\\w+)\\([^)\\n]*\\) \\{\n(?s:(.*?))^\\1\\}");
 
     private static final List<String> wrong = new ArrayList<>();
 
@@ -93,9 +105,80 @@ public final class LanguageTests {
         need(fields <= 20, c.getName() + " has " + fields + " fields");
     }
 
+    private static String withoutComments(String text) {
+        return text.replaceAll("(?s)/\\*.*?\\*/", "").replaceAll("//[^\\n]*", "");
+    }
+
+    private static void library(String code) {
+        Matcher type = Pattern.compile("\\b[A-Z]\\w*[a-z]\\w*\\b").matcher(code);
+        while (type.find()) {
+            need(TYPES.contains(type.group()), "the file names " + type.group());
+        }
+        Matcher call = Pattern.compile("\\bMath\\.\\w+").matcher(code);
+        while (call.find()) {
+            need(LIBRARY.contains(call.group()), "the file calls " + call.group());
+        }
+    }
+
+    /** By the names of methods alone: those of one name in several classes are taken for one. */
+    private static Map<String, String> bodies(String code) {
+        Map<String, String> bodies = new TreeMap<>();
+        Matcher m = METHOD.matcher(code);
+        while (m.find()) {
+            bodies.merge(m.group(2), m.group(3), String::concat);
+        }
+        return bodies;
+    }
+
+    private static void bodiesAreFound(Map<String, String> bodies) {
+        List<Class<?>> classes = new ArrayList<>(List.of(ClubStrokes.class.getDeclaredClasses()));
+        classes.add(ClubStrokes.class);
+        for (Class<?> c : classes) {
+            for (Method m : c.getDeclaredMethods()) {
+                need(bodies.containsKey(m.getName()), m.getName() + " can't be found in the file");
+            }
+        }
+    }
+
+    private static void objects(Map<String, String> bodies) {
+        for (Map.Entry<String, String> method : bodies.entrySet()) {
+            boolean makes = Pattern.compile("\\bnew\\b").matcher(method.getValue()).find();
+            need(!makes || MAKERS.contains(method.getKey()), method.getKey() + " makes an object");
+        }
+    }
+
+    private static int depth(String name, Map<String, String> bodies, List<String> open) {
+        if (open.contains(name)) {
+            need(false, name + " is called by itself, through " + open);
+            return 0;
+        }
+        open.add(name);
+        int deepest = 0;
+        Matcher call = Pattern.compile("\\b(\\w+)\\(").matcher(bodies.get(name));
+        while (call.find()) {
+            if (bodies.containsKey(call.group(1))) {
+                deepest = Math.max(deepest, depth(call.group(1), bodies, open));
+            }
+        }
+        open.remove(name);
+        return 1 + deepest;
+    }
+
+    private static void structure() throws Exception {
+        String code = withoutComments(Files.readString(Path.of(SOURCE)));
+        library(code);
+        Map<String, String> bodies = bodies(code);
+        bodiesAreFound(bodies);
+        objects(bodies);
+        for (String name : bodies.keySet()) {
+            int deep = depth(name, bodies, new ArrayList<>());
+            need(deep <= DEEPEST, name + " goes " + deep + " calls deep");
+        }
+    }
+
     private static void words() throws Exception {
         String text = Files.readString(Path.of(SOURCE));
-        String code = text.replaceAll("(?s)/\\*.*?\\*/", "").replaceAll("//[^\\n]*", "");
+        String code = withoutComments(text);
         for (String word : FORBIDDEN) {
             Matcher m = Pattern.compile(word).matcher(code);
             need(!m.find(), "the file has " + word);
@@ -140,6 +223,7 @@ public final class LanguageTests {
     public static void main(String[] args) throws Exception {
         face();
         words();
+        structure();
         wildCalls();
         for (String w : wrong) {
             System.out.println(w);
